@@ -423,7 +423,12 @@ public final class BarrelNight {
                 return BEYOND;
             }
             int carried = set + (set & -set);
-            return carried | (carried ^ set) >>> Integer.numberOfTrailingZeros(set) + 2;
+            return carried | (carried ^ set) >>> leastOf(set) + 2;
+        }
+
+        /** The least member of a set that has one. */
+        static int leastOf(int set) {
+            return Integer.bitCount((set & -set) - 1);
         }
     }
 
@@ -1021,7 +1026,7 @@ public final class BarrelNight {
         }
 
         private static int stepsIn(int chosen, int barrel) {
-            return Integer.numberOfTrailingZeros(chosen >> barrel * CHOICES);
+            return Sets.leastOf(chosen >> barrel * CHOICES);
         }
     }
 
@@ -1099,7 +1104,7 @@ public final class BarrelNight {
             for (int i = 0; i < k; i++) {
                 rest &= rest - 1;
             }
-            return rest == 0 ? NONE : Integer.numberOfTrailingZeros(rest);
+            return rest == 0 ? NONE : Sets.leastOf(rest);
         }
     }
 
@@ -1128,7 +1133,7 @@ public final class BarrelNight {
                 kin[bearer] = bearers.ofFamily(bearers.family[bearer]);
             }
             for (int set = 1; set < sets; set++) {
-                int lowest = Integer.numberOfTrailingZeros(set);
+                int lowest = Sets.leastOf(set);
                 carries[set] = carries[set & set - 1] + bearers.run(lowest, weight);
                 openers[set] = openersOf(set, bearers, weight);
                 int size = Integer.bitCount(set);
@@ -1179,7 +1184,7 @@ public final class BarrelNight {
                     fit |= openers[set] & ~lastKin;
                 }
             }
-            return fit == 0 ? NONE : Integer.numberOfTrailingZeros(fit);
+            return fit == 0 ? NONE : Sets.leastOf(fit);
         }
     }
 
