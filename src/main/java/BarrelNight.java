@@ -8,6 +8,7 @@ import java.util.NoSuchElementException;
 public final class BarrelNight {
     public static final int NONE = -1;
 
+    private static final int FEED_BYTES = 20;
     private static final int MOST_TEXTS = 10;
     private static final int MOST_SECONDS = 600;
     private static final int MOST_PEOPLE = 999;
@@ -40,7 +41,7 @@ public final class BarrelNight {
     }
 
     public int feed(int a, int b, int c, int d, int e) {
-        if (!tape.hasRoom(20)) {
+        if (!tape.hasRoom(FEED_BYTES)) {
             return NONE;
         }
         tape.addNumber(a);

@@ -108,16 +108,23 @@ public final class BarrelsTest {
     private static void startsBehind2000() {
         // Three are apart but for their last place, yard 1, which each has for 60 seconds from 1899 on. Put off by 2
         // and 3 times 34 two of them would be there from 2001 on: no meeting is told of so late.
-        BarrelNight y = Check.told("yard 9 0 wall 0 door 0;yard 9 0 wall 0 door 0;yard 9 0 wall 0 door 0;"
-                + "yard 9 0 wall 0 door 0;yard 9 0 wall 0 door 0;yard 9 0 wall 0 door 0;yard 9 0 wall 0 door 0",
-                "lane 2 0;lane 2 1;lane 4 3;lane 4 1;lane 6 5;lane 6 1",
-                barrel(999, 60, "2 0 2 0 2 0 2 0 2 0 2 0 2 0 2 1") + ";" + barrel(999, 60, "4 3 4 3 4 3 4 3 4 3 4 3 4 3 4 1")
-                + ";" + barrel(999, 60, "6 5 6 5 6 5 6 5 6 5 6 5 6 5 6 1"));
+        BarrelNight x = toldThree(999);
         int[] want = {0, 2, 3};
         for (int barrel = 0; barrel < 3; barrel++) {
-            Check.due("by 34: " + barrel, y.starts(barrel, 34), want[barrel]);
-            Check.due("by 33: " + barrel, y.starts(barrel, 33), -1);
+            Check.due("by 34: " + barrel, x.starts(barrel, 34), want[barrel]);
+            Check.due("by 33: " + barrel, x.starts(barrel, 33), -1);
         }
+        // A second less, and they meet at 2000, which still is told of.
+        Check.due("at 2000", toldThree(998).starts(0, 34), -1);
+    }
+
+    private static BarrelNight toldThree(int start) {
+        String yard = "yard 9 0 wall 0 door 0";
+        return Check.told(yard + ";" + yard + ";" + yard + ";" + yard + ";" + yard + ";" + yard + ";" + yard,
+                "lane 2 0;lane 2 1;lane 4 3;lane 4 1;lane 6 5;lane 6 1",
+                barrel(start, 60, "2 0 2 0 2 0 2 0 2 0 2 0 2 0 2 1") + ";"
+                + barrel(start, 60, "4 3 4 3 4 3 4 3 4 3 4 3 4 3 4 1") + ";"
+                + barrel(start, 60, "6 5 6 5 6 5 6 5 6 5 6 5 6 5 6 1"));
     }
 
     private static void startsOfSix() {

@@ -123,6 +123,11 @@ public final class SecondsTest {
         BarrelNight x = Check.told(town);
         Check.due("opens", x.opens(0), 4);
         Check.due("pace stays", x.barrel(0, 1), 1);
+        // 600 need all of the 60 seconds, and 601 more than there are.
+        String far = "yard 999 0 wall 0 door 0;yard 999 600 wall 0 door 0;yard 999 0 wall 0 door 0;lane 0 1;lane 1 2;push 0;"
+                + "barrel at 0 pace 1 tar 9 weight 1 way 0 1";
+        Check.due("opens of 600", Check.told(far).opens(0), 60);
+        Check.due("opens of 601", Check.told(far.replace("600", "601")).opens(0), -1);
         // In a trial of 300 seconds a pace of more seconds may never come there at all.
         BarrelNight y = Check.told("yard 50 0 wall 0 door 0;yard 50 40 wall 39 door 0;lane 0 1;push 0;"
                 + "barrel at 250 pace 1 tar 9 weight 1 way 0 1;barrel at 999 pace 1 tar 9 weight 1 way 1");
