@@ -1431,21 +1431,16 @@ public final class BarrelNight {
         void readText(Tape tape) {
             boolean more = tape.startReading();
             for (lines = 0; more && lines < MOST_LINES; lines++) {
-                readLine(tape);
+                tape.wantWord("back");
+                int number = tape.wantNumber(0, MOST_NUMBER);
+                boolean hasCondition = tape.takeWord("if");
+                if (hasCondition) {
+                    readCondition(tape, 0);
+                }
+                add(hasCondition ? GO_IF : GO, number);
                 more = tape.takeSign(';');
             }
             tape.stopReading(more);
-        }
-
-        private void readLine(Tape tape) {
-            tape.wantWord("back");
-            int number = tape.wantNumber(0, MOST_NUMBER);
-            if (tape.takeWord("if")) {
-                readCondition(tape, 0);
-                add(GO_IF, number);
-            } else {
-                add(GO, number);
-            }
         }
 
         private void readCondition(Tape tape, int depth) {
@@ -1479,19 +1474,15 @@ public final class BarrelNight {
             } else if (tape.takeWord("at")) {
                 add(AT, 0);
             } else {
-                readComparison(tape);
+                readSum(tape);
+                boolean isBelow = tape.takeSign('<');
+                if (!isBelow) {
+                    tape.wantSign('>');
+                }
+                add(TURN, 0);
+                readSum(tape);
+                add(isBelow ? BELOW : ABOVE, 0);
             }
-        }
-
-        private void readComparison(Tape tape) {
-            readSum(tape);
-            int comparison = tape.isSign('<') ? BELOW : ABOVE;
-            if (!tape.takeSign('<')) {
-                tape.wantSign('>');
-            }
-            add(TURN, 0);
-            readSum(tape);
-            add(comparison, 0);
         }
 
         private void readSum(Tape tape) {
