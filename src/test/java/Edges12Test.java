@@ -85,6 +85,13 @@ public final class Edges12Test {
         Check.due("by the third", x.seconds(1), 4);
     }
 
+    // "BARRELS (at most 6 ..)": all of them, and the last one alone.
+    private static void promise12_sixBarrels() {
+        BarrelNight x = still(yard(9, 5, 0, 0), yard(9, 4, 0, 0), Check.times(5, barrel(0, 1, "0")), barrel(0, 1, "1"));
+        Check.due("all six", x.seconds(1), 29);
+        Check.due("by the last", x.yard(1, 6), 4);
+    }
+
     // "CAUGHT: in all so far; by YARDS."
     private static void promise12_caughtByYards() {
         BarrelNight x = still(yard(9, 3, 0, 0), yard(9, 4, 0, 0), "lane 0 1", barrel(0, 1, "0 1 0"));

@@ -53,6 +53,13 @@ public final class Edges17To19Test {
         Check.due("600", x.trial(600), 15);
     }
 
+    // "BARRELS (at most 6 ..)": the last one counts, and the trial goes on until it has come.
+    private static void promise17_sixBarrels() {
+        BarrelNight x = Check.told("yard 9 5 wall 0 door 0;" + Check.times(5, barrel(0, 1, "0")) + ";" + barrel(9, 1, "0"));
+        Check.due("five", x.trial(9), 25);
+        Check.due("six", x.trial(10), 30);
+    }
+
     // "all goes on from now": not from SECOND 0 on, and without those CAUGHT before.
     private static void promise17_fromNowOn() {
         BarrelNight x = Check.told("yard 9 5 wall 0 door 0;" + barrel(0, 1, "0") + ";" + barrel(10, 1, "0"));
@@ -99,6 +106,14 @@ public final class Edges17To19Test {
         Check.due("60", goingBack(591, 30).opens(0), 60);
         Check.due("60", goingBack(600, 1).opens(0), 60);
         Check.due("none", goingBack(601, 60).opens(0), -1);
+    }
+
+    // "BARRELS (at most 6 ..)": OPENS for the last one.
+    private static void promise18_theSixthBarrel() {
+        BarrelNight x = Check.told("yard 99 0 wall 0 door 0;yard 99 20 wall 0 door 0;yard 99 0 wall 0 door 0;lane 0 1;lane 1 2;"
+                + "push 0;" + Check.times(5, barrel(0, 1, "0")), barrel(0, 1, "0 1"));
+        Check.due("opens", x.opens(5), 2);
+        Check.due("not by another one's pace", x.opens(4), -1);
     }
 
     // "in a TRIAL of 300 SECONDS": a coming in the last of them, and in the one behind.

@@ -61,6 +61,14 @@ public final class Edges20To23Test {
         dueMeet(barrel(0, 1, "0 1 2 3 2 1 0"), barrel(2, 9, "1"), 5);
     }
 
+    // "BARRELS (at most 6 ..)": the last two.
+    private static void promise20_theLastTwo() {
+        BarrelNight x = Check.told(YARDS, Check.times(4, barrel(0, 1, "0")) + ";" + barrel(3, 2, "1") + ";" + barrel(4, 2, "1"));
+        Check.due("4 and 5", x.meet(4, 5), 4);
+        Check.due("5 and 4", x.meet(5, 4), 4);
+        Check.due("0 and 5", x.meet(0, 5), -1);
+    }
+
     // "or change YARDS (both ON then and a SECOND ago; each is where the other was)"
     private static void promise20_theyChangeYards() {
         dueMeet(barrel(0, 1, "0 1"), barrel(0, 1, "1 0"), 1);
@@ -146,6 +154,13 @@ public final class Edges20To23Test {
         dueStarts(1, barrel(2, 3, "0") + ";" + barrel(0, 3, "0"), 1, 0);
         dueStarts(1, barrel(1, 1, "0") + ";" + barrel(0, 2, "0") + ";" + barrel(0, 2, "0"), 1, 0, 3);
         dueStarts(1, barrel(0, 9, "3") + ";" + barrel(1, 1, "0") + ";" + barrel(0, 2, "0") + ";" + barrel(0, 2, "0"), 0, 1, 0, 3);
+    }
+
+    // "BARRELS (at most 6 ..)": all of them.
+    private static void promise21_sixBarrels() {
+        dueStarts(5, Check.times(4, barrel(0, 5, "0")) + ";" + Check.times(2, barrel(0, 5, "1")), 0, 1, 2, 3, 0, 1);
+        dueStarts(5, Check.times(5, barrel(0, 5, "0")) + ";" + barrel(0, 5, "1"), -1, -1, -1, -1, -1, -1);
+        dueStarts(4, Check.times(5, barrel(0, 5, "0")).replaceAll("at 0", "at 900") + ";" + barrel(0, 5, "1"), -1, -1);
     }
 
     // "so that no two MEET": also those who only change YARDS.

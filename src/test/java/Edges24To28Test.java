@@ -240,6 +240,20 @@ public final class Edges24To28Test {
         Check.due("a ring of four: 0 and 1", y.sparks(true), 3);
     }
 
+    // "YARDS (at most 16 ..)", "LANES (at most 24 ..)", "BARRELS (at most 6 ..)": all of them.
+    private static void promise26_aFullTown() {
+        StringBuilder six = new StringBuilder(heavy(20, "0"));
+        for (int yard = 3; yard < 16; yard += 3) {
+            six.append(';').append(heavy(20, "" + yard));
+        }
+        BarrelNight x = Check.told(Check.times(13, THATCH), Check.times(3, THATCH), line(0, 7), line(7, 15),
+                Check.times(9, "lane 0 1"), six.toString());
+        Check.due("lanes", x.count(1), 24);
+        Check.due("danger", x.sparks(false), 65535);
+        // From the last on, each bucket as low as can be: 14, 11, 8, 5, 2, and 0.
+        Check.due("buckets", x.sparks(true), 1 << 14 | 1 << 11 | 1 << 8 | 1 << 5 | 1 << 2 | 1);
+    }
+
     // "YARDS (at most 16 ..)": the first and the last of them, each alone.
     private static void promise26_sixteenYards() {
         BarrelNight x = Check.told(Check.times(13, THATCH), Check.times(3, THATCH) + ";" + heavy(20, "0") + ";" + heavy(20, "15")
