@@ -205,12 +205,12 @@ public final class BarrelNight {
     public int mends(int m) throws IllegalArgumentException {
         checkBounds(m, 1, MOST_DOOR);
         int choice = Math.min(town.yards.count, MENDS_YARDS);
-        for (int size = 0; size <= choice; size++) {
-            for (int set = Sets.leastOfSize(size); set < 1 << choice; set = Sets.nextOfSameSize(set)) {
-                if (isMendedBy(set, m)) {
-                    return set;
-                }
+        int set = 0;
+        for (int tried = 0; tried < 1 << choice; tried++) {
+            if (isMendedBy(set, m)) {
+                return set;
             }
+            set = Sets.nextBySize(set, choice);
         }
         return NONE;
     }
@@ -407,21 +407,24 @@ public final class BarrelNight {
 
     /** Sets of small numbers, as bits. */
     private static final class Sets {
-        // Larger than every set of yards.
-        static final int BEYOND = 1 << 30;
-
         static boolean has(int set, int member) {
             return (set >> member & 1) != 0;
         }
 
-        static int leastOfSize(int size) {
+        /** Goes from the empty set through all sets of numbers below a bound: the smaller first, then by their bits. */
+        static int nextBySize(int set, int bound) {
+            int next = nextOfSameSize(set);
+            return next < 1 << bound ? next : leastOfSize(Integer.bitCount(set) + 1);
+        }
+
+        private static int leastOfSize(int size) {
             return (1 << size) - 1;
         }
 
-        /** The next larger set of as many members; the empty one is alone of its size. */
-        static int nextOfSameSize(int set) {
+        /** The empty set has none of its size: what comes is the least set of one member. */
+        private static int nextOfSameSize(int set) {
             if (set <= 0) {
-                return BEYOND;
+                return 1;
             }
             int carried = set + (set & -set);
             return carried | (carried ^ set) >>> leastOf(set) + 2;
@@ -782,12 +785,12 @@ public final class BarrelNight {
             for (int yard = 0; yard < yards && yard < guards.length; yard++) {
                 guards[yard] = Sets.has(danger, yard) ? around(1 << yard, true) : 0;
             }
-            for (int size = 0; size <= yards; size++) {
-                for (int set = Sets.leastOfSize(size); set < 1 << yards; set = Sets.nextOfSameSize(set)) {
-                    if (meetsAll(set, guards, yards)) {
-                        return set;
-                    }
+            int set = 0;
+            for (int tried = 0; tried < 1 << yards; tried++) {
+                if (meetsAll(set, guards, yards)) {
+                    return set;
                 }
+                set = Sets.nextBySize(set, yards);
             }
             return NONE;
         }

@@ -9,6 +9,8 @@ import java.util.Arrays;
 import java.util.List;
 import java.util.Set;
 import java.util.TreeSet;
+import java.util.regex.Matcher;
+import java.util.regex.Pattern;
 import java.util.stream.Collectors;
 
 /** The public face of the document, and the rules of LANGUAGE.md that can be seen in classes and source. */
@@ -102,9 +104,38 @@ public final class FaceTest {
         for (String word : new String[] {"\\bcatch\\b", "\\btry\\b", "\\bfinally\\b", "->", "::", "\\bsynchronized\\b",
             "\\bassert\\b", "Exact\\(", "\\bdouble\\b", "\\bfloat\\b", "\"\"\\s*\\+|\\+\\s*\"\"", "while \\(true\\)",
             "\\bpackage\\b", "\\bSystem\\.(?!arraycopy)"}) {
-            Check.due("the source has " + word, java.util.regex.Pattern.compile(word).matcher(code).find(), false);
+            Check.due("the source has " + word, Pattern.compile(word).matcher(code).find(), false);
         }
+        loops(code);
+        methods(code);
         List<String> imports = code.lines().filter(l -> l.startsWith("import")).toList();
         Check.due("imports", imports, List.of("import java.util.NoSuchElementException;"));
+    }
+
+    /** Rule 9: the end of a loop is seen from its own lines, so a for counts, or takes one behind another. */
+    private static void loops(String code) {
+        Matcher m = Pattern.compile("\\bfor \\((.*)\\) \\{").matcher(code);
+        while (m.find()) {
+            String[] parts = m.group(1).split(";");
+            String step = parts[parts.length - 1].strip();
+            Check.due("for (" + m.group(1) + ") counts", step.matches("\\w+(\\+\\+|--| [+-]= [A-Z0-9_]+)"), true);
+        }
+        Check.due("do is used", Pattern.compile("\\bdo \\{").matcher(code).find(), false);
+    }
+
+    /** Rule 11: methods of some sixty lines at most. */
+    private static void methods(String code) {
+        List<String> lines = code.lines().toList();
+        for (int i = 0; i < lines.size(); i++) {
+            String line = lines.get(i);
+            if (line.matches("( {4}| {8})\\w.*\\{") && !line.contains("class ")) {
+                String indent = line.substring(0, line.indexOf(line.strip()));
+                int last = i;
+                while (last + 1 < lines.size() && !lines.get(last).equals(indent + "}")) {
+                    last++;
+                }
+                Check.due("some sixty lines at most: " + line.strip(), last - i < 60, true);
+            }
+        }
     }
 }
