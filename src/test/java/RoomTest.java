@@ -58,6 +58,7 @@ public final class RoomTest {
         calls.put("barrel", () -> x.barrel(1, 7));
         calls.put("step", () -> x.step(0, 1));
         calls.put("bearer", () -> x.bearer(0, true));
+        calls.put("delay", () -> x.delay(1, 1));
         calls.put("seconds", () -> x.seconds(3));
         calls.put("put", () -> x.put(0, true));
         calls.put("come", () -> x.come(0, 1));
